@@ -213,6 +213,17 @@ public final class PlanTest {
         C.due("the second can't be", x.plan(), -1);
         x.pass(1);
         C.due("too late", x.plan(), -1);
+        StoneWorks z = works("cut 1;way 1;raft 1", 2, 10, 10);
+        z.spell(0, 0, 3000);
+        z.stone(10, 0);
+        z.stone(10, 1);
+        while (z.count(0) + 400 <= 2995) {
+            z.pass(400);
+        }
+        z.pass(2995 - z.count(0));
+        duePlan("both by day 3000", z, 3000, 0, 0, 2995, 2999, 1, 1, 2995, 3000);
+        z.stone(11, 0);
+        C.due("the second course would be laid on day 3001", z.plan(), -1);
         StoneWorks y = works("cut 99", 1, 1);
         y.spell(0, 0, 3000);
         y.stone(2, 0);

@@ -86,6 +86,11 @@ public final class TableTest {
     private static void faults() {
         faultAt("c", 0, 0);
         faultAt("cuts 5", 0, 0);
+        faultAt("cutz 5", 0, 0);
+        faultAt("cuta 5", 0, 0);
+        faultAt("xut 5", 0, 0);
+        faultAt("cux 5", 0, 0);
+        faultAt("way 3;arth 5", 6, 0);
         faultAt("Cut 5", 0, 0);
         faultAt("cuT 5", 0, 0);
         faultAt("5", 0, 0);

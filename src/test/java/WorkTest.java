@@ -15,6 +15,8 @@ public final class WorkTest {
         cuttingByMen();
         tableAsSent();
         standingStill();
+        wetRamp();
+        ropeThatJustBears();
         feasts();
         hunger();
         gangsByNumbers();
@@ -229,6 +231,15 @@ public final class WorkTest {
         C.due("day", x.about(0, 3), day);
         C.due("laid by it", x.gangs(0, 3), 2);
         C.due("count laid", x.count(5), 2);
+        StoneWorks y = works("cut 1;way 1;raft 1;earth 1", 50);
+        y.stone(10, 0);
+        y.stone(10, 1);
+        y.raise(0);
+        y.pass(1);
+        y.raise(0);
+        y.pass(1);
+        bring(y, 0, 1, 4);
+        C.due("9 for stone 0", y.send(0, 1), 9);
     }
 
     private static void callingOff() {
@@ -305,6 +316,50 @@ public final class WorkTest {
         C.due("left", x.gangs(0, 2), 2);
         x.pass(2);
         C.due("at the quay", x.about(0, 0), 2);
+    }
+
+    private static void wetRamp() {
+        StoneWorks x = works("cut 1;way 1;raft 1;earth 1", 20);
+        x.stone(20, 2);
+        for (int i = 0; i < 3; i++) {
+            x.raise(0);
+            x.pass(1);
+        }
+        bring(x, 0, 0, 3);
+        int now = x.count(0);
+        x.spell(1, now, now);
+        x.spell(1, now + 2, now + 2);
+        Checks.tableOf(x, "ramp 1 11;earth 1");
+        C.due("a wet ramp: 22 of 20", x.send(0, 0), 6);
+        Checks.tableOf(x, "ramp 1 11;earth 1;rope 21");
+        C.due("a wet ramp: 22 for a rope of 21", x.send(0, 0), 5);
+        C.due("pull on a dry ramp", x.about(0, 4), 2);
+        Checks.tableOf(x, "ramp 1 10;flat 99 99");
+        C.due("a wet ramp: 20 of 20", x.send(0, 0), 0);
+        x.pass(1);
+        C.due("left", x.gangs(0, 2), 2);
+        Checks.tableOf(x, "ramp 1 11");
+        x.pass(1);
+        C.due("a dry day", x.gangs(0, 2), 1);
+        x.pass(1);
+        C.due("a wet day", x.gangs(0, 2), 1);
+        C.due("it stood still", x.gangs(0, 4), 1);
+        x.pass(1);
+        C.due("up", x.about(0, 0), 4);
+    }
+
+    private static void ropeThatJustBears() {
+        StoneWorks x = works("cut 1;way 2", 10);
+        x.stone(20, 0);
+        bring(x, 0, 0, 1);
+        Checks.tableOf(x, "way 2;flat 5 5;rope 10");
+        C.due("10 men, a rope for 10", x.send(0, 0), 0);
+        x.pass(1);
+        C.due("it goes", x.gangs(0, 2), 1);
+        C.due("no day still", x.gangs(0, 4), 0);
+        Checks.tableOf(x, "flat 5 5;rope 9");
+        x.pass(1);
+        C.due("a rope for 9", x.gangs(0, 4), 1);
     }
 
     private static void feasts() {
@@ -412,6 +467,9 @@ public final class WorkTest {
         }
         x.pass(400);
         x.pass(200);
+        C.due("the last day: raise", x.raise(0), 0);
+        C.due("the last day: another raises it", x.raise(1), 3);
+        x.callOff(0);
         C.due("the last day: send", x.send(0, 0), 0);
         x.boat(3000, 5);
         C.due("pass", x.pass(1), 3001);
