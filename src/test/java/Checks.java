@@ -4,12 +4,20 @@ import java.nio.charset.StandardCharsets;
 final class Checks {
     private int calls = 0;
     private int wrong = 0;
+    private int sentences = 0;
+    private String about = "";
+
+    /** The promise, and the words of the document, that the answers from here on are about. */
+    void sentence(int promise, String words) {
+        sentences++;
+        about = "promise " + promise + ", \"" + words + "\": ";
+    }
 
     void due(String call, long got, long want) {
         calls++;
         if (got != want) {
             wrong++;
-            System.out.println(call + " answered " + got + ", due is " + want);
+            System.out.println(about + call + " answered " + got + ", due is " + want);
         }
     }
 
@@ -19,7 +27,8 @@ final class Checks {
 
     /** Ends the program with 1 if an answer was wrong. */
     void finish() {
-        System.out.println(wrong == 0 ? calls + " answers, all as due" : wrong + " answers are not as due");
+        String asked = sentences == 0 ? calls + " answers" : calls + " answers to " + sentences + " sentences";
+        System.out.println(wrong == 0 ? asked + ", all as due" : wrong + " answers are not as due");
         if (wrong != 0) {
             System.exit(1);
         }

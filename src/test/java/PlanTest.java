@@ -20,25 +20,6 @@ public final class PlanTest {
         C.finish();
     }
 
-    private static StoneWorks works(String table, int ramp, int... men) {
-        StoneWorks x = new StoneWorks();
-        for (int i = 0; i < 10; i++) {
-            x.boat(0, 1000000);
-        }
-        for (int m : men) {
-            x.gang(m);
-        }
-        Checks.tableOf(x, "earth 1");
-        for (int i = 0; i < ramp; i++) {
-            do {
-                x.raise(0);
-                x.pass(1);
-            } while (x.count(4) == i);
-        }
-        Checks.tableOf(x, table);
-        return x;
-    }
-
     /** STONE, GANG, begin, laid, of each. */
     private static void duePlan(String name, StoneWorks x, int day, int... rows) {
         C.due(name + ": plan()", x.plan(), day);
@@ -59,8 +40,7 @@ public final class PlanTest {
     }
 
     private static void tooMany() {
-        StoneWorks x = works("cut 1;way 1;raft 1", 1, 50);
-        x.spell(0, 0, 3000);
+        StoneWorks x = Sites.withRamp("cut 1;way 1;raft 1", 1, 50);
         for (int i = 0; i < 5; i++) {
             x.stone(10, 0);
         }
@@ -72,8 +52,7 @@ public final class PlanTest {
     }
 
     private static void workedOn() {
-        StoneWorks x = works("cut 1;way 1;raft 1", 1, 50, 50);
-        x.spell(0, 0, 3000);
+        StoneWorks x = Sites.withRamp("cut 1;way 1;raft 1", 1, 50, 50);
         x.stone(10, 0);
         x.send(0, 0);
         C.due("worked on", x.plan(), -1);
@@ -90,8 +69,7 @@ public final class PlanTest {
     }
 
     private static void men() {
-        StoneWorks x = works("cut 1;way 1;raft 1;flat 5 99;ramp 6 99;rope 1", 1, 11, 12, 24);
-        x.spell(0, 0, 3000);
+        StoneWorks x = Sites.withRamp("cut 1;way 1;raft 1;flat 5 99;ramp 6 99;rope 1", 1, 11, 12, 24);
         x.spell(1, 0, 3000);
         x.spell(2, 0, 3000);
         x.stone(20, 0);
@@ -106,8 +84,7 @@ public final class PlanTest {
     }
 
     private static void stages() {
-        StoneWorks x = works("cut 3;way 4;raft 2", 2, 10);
-        x.spell(0, 0, 3000);
+        StoneWorks x = Sites.withRamp("cut 3;way 4;raft 2", 2, 10);
         x.stone(10, 1);
         for (int state = 0, left = 3 + 4 + 2 + 2 + 1; state < 5; state++) {
             int now = x.count(0);
@@ -124,7 +101,7 @@ public final class PlanTest {
     }
 
     private static void rafts() {
-        StoneWorks x = works("cut 1;way 1;raft 3", 1, 10);
+        StoneWorks x = Sites.onLowRiver("cut 1;way 1;raft 3", 1, 10);
         x.stone(10, 0);
         int now = x.count(0);
         C.due("never high", x.plan(), -1);
@@ -140,8 +117,7 @@ public final class PlanTest {
     }
 
     private static void lesserCoursesFirst() {
-        StoneWorks x = works("cut 1;way 1;raft 1", 2, 10, 10);
-        x.spell(0, 0, 3000);
+        StoneWorks x = Sites.withRamp("cut 1;way 1;raft 1", 2, 10, 10);
         x.stone(10, 1);
         x.stone(10, 0);
         int now = x.count(0);
@@ -149,8 +125,7 @@ public final class PlanTest {
     }
 
     private static void waitForLesser() {
-        StoneWorks x = works("cut 1;way 1;raft 1", 2, 10, 50);
-        x.spell(0, 0, 3000);
+        StoneWorks x = Sites.withRamp("cut 1;way 1;raft 1", 2, 10, 50);
         x.stone(90, 0);
         x.stone(20, 1);
         // stone 0 wants 45 men: gang 1 alone; gang 0 has stone 1 up long before
@@ -159,14 +134,13 @@ public final class PlanTest {
     }
 
     private static void firstByStonesThenGangs() {
-        StoneWorks x = works("cut 1;way 1;raft 1", 1, 10, 10, 20);
-        x.spell(0, 0, 3000);
+        StoneWorks x = Sites.withRamp("cut 1;way 1;raft 1", 1, 10, 10, 20);
         x.stone(20, 0);
         x.stone(10, 0);
         x.stone(10, 0);
         int now = x.count(0);
         duePlan("gang 2 cuts in a day", x, now + 4, 0, 2, now, now + 4, 1, 0, now, now + 4, 2, 1, now, now + 4);
-        StoneWorks y = works("cut 1;way 1;raft 1", 1, 20);
+        StoneWorks y = Sites.onLowRiver("cut 1;way 1;raft 1", 1, 20);
         int day = y.count(0);
         y.spell(0, day, day + 2);
         y.spell(0, day + 8, day + 8);
@@ -175,8 +149,7 @@ public final class PlanTest {
         duePlan("stone 0 first would miss the river", y, day + 10, 1, 0, day, day + 4, 0, 0, day + 5, day + 10);
         y.spell(0, day + 9, day + 15);
         duePlan("stone 0 first still ends later", y, day + 10, 1, 0, day, day + 4, 0, 0, day + 5, day + 10);
-        StoneWorks z = works("cut 1;way 1;raft 1", 1, 20, 20);
-        z.spell(0, 0, 3000);
+        StoneWorks z = Sites.withRamp("cut 1;way 1;raft 1", 1, 20, 20);
         int first = z.count(0);
         z.stone(10, 0);
         z.stone(10, 0);
@@ -186,8 +159,7 @@ public final class PlanTest {
     }
 
     private static void latestOneStays() {
-        StoneWorks x = works("cut 1;way 1;raft 1", 1, 10);
-        x.spell(0, 0, 3000);
+        StoneWorks x = Sites.withRamp("cut 1;way 1;raft 1", 1, 10);
         x.stone(10, 0);
         int now = x.count(0);
         duePlan("one", x, now + 4, 0, 0, now, now + 4);
@@ -201,31 +173,22 @@ public final class PlanTest {
     }
 
     private static void byDay3000() {
-        StoneWorks x = works("cut 1;way 1;raft 1", 1, 10);
-        x.spell(0, 0, 3000);
+        StoneWorks x = Sites.withRamp("cut 1;way 1;raft 1", 1, 10);
         x.stone(10, 0);
-        while (x.count(0) + 400 <= 2996) {
-            x.pass(400);
-        }
-        x.pass(2996 - x.count(0));
+        Sites.passTo(x, 2996);
         duePlan("laid on day 3000", x, 3000, 0, 0, 2996, 3000);
         x.stone(10, 0);
         C.due("the second can't be", x.plan(), -1);
         x.pass(1);
         C.due("too late", x.plan(), -1);
-        StoneWorks z = works("cut 1;way 1;raft 1", 2, 10, 10);
-        z.spell(0, 0, 3000);
+        StoneWorks z = Sites.withRamp("cut 1;way 1;raft 1", 2, 10, 10);
         z.stone(10, 0);
         z.stone(10, 1);
-        while (z.count(0) + 400 <= 2995) {
-            z.pass(400);
-        }
-        z.pass(2995 - z.count(0));
+        Sites.passTo(z, 2995);
         duePlan("both by day 3000", z, 3000, 0, 0, 2995, 2999, 1, 1, 2995, 3000);
         z.stone(11, 0);
         C.due("the second course would be laid on day 3001", z.plan(), -1);
-        StoneWorks y = works("cut 99", 1, 1);
-        y.spell(0, 0, 3000);
+        StoneWorks y = Sites.withRamp("cut 99", 1, 1);
         y.stone(2, 0);
         int now = y.count(0);
         duePlan("198 days of cutting", y, now + 198 + 3 + 4 + 1, 0, 0, now, now + 206);
@@ -252,7 +215,7 @@ public final class PlanTest {
 
     /** An object in some state, and all that is known of it. */
     private static final class PlanRound {
-        final StoneWorks works = new StoneWorks();
+        final StoneWorks works = Sites.fed();
         final boolean[] high = new boolean[3200];
         final int[] men;
         final int[] weight;
@@ -265,9 +228,6 @@ public final class PlanTest {
         final int ramp;
 
         PlanRound(Random random) {
-            for (int i = 0; i < 10; i++) {
-                works.boat(0, 1000000);
-            }
             men = new int[1 + random.nextInt(4)];
             boolean strong = random.nextBoolean();
             for (int g = 0; g < men.length; g++) {
@@ -279,7 +239,7 @@ public final class PlanTest {
             course = new int[size];
             int courses = 1 + random.nextInt(3);
             Checks.tableOf(works, "earth 1");
-            raiseRamp(random, courses);
+            Sites.raiseRamp(works, 0, random.nextInt(6) == 0 ? courses - 1 : courses);
             cut = 1 + random.nextInt(5);
             way = 1 + random.nextInt(3);
             raft = 1 + random.nextInt(4);
@@ -293,15 +253,6 @@ public final class PlanTest {
             }
             addSpells(random);
             workSome(random);
-        }
-
-        private void raiseRamp(Random random, int courses) {
-            int goal = random.nextInt(6) == 0 ? courses - 1 : courses;
-            for (int days = 0; days < 300 && works.count(4) < goal; days++) {
-                works.raise(0);
-                works.pass(1);
-            }
-            works.callOff(0);
         }
 
         private void addSpells(Random random) {
@@ -345,7 +296,11 @@ public final class PlanTest {
     /** Looks at every order and all GANGS, one by one, as the document tells it. */
     private static final class EveryOrder {
         final PlanRound r;
+        // read once: an object is used for at most 512 calls
         final int now;
+        final int rampHigh;
+        final int[] state;
+        final boolean[] free;
         int best = -1;
         int[][] rows;
         int[] todo;
@@ -353,13 +308,22 @@ public final class PlanTest {
         EveryOrder(PlanRound r) {
             this.r = r;
             now = r.works.count(0);
+            rampHigh = r.works.count(4);
+            state = new int[r.size];
+            for (int s = 0; s < r.size; s++) {
+                state[s] = r.works.about(s, 0);
+            }
+            free = new boolean[r.men.length];
+            for (int g = 0; g < r.men.length; g++) {
+                free[g] = r.works.gangs(g, 1) == -1;
+            }
         }
 
         void start() {
             int n = 0;
             todo = new int[r.size];
             for (int s = 0; s < r.size; s++) {
-                if (r.works.about(s, 0) < 5) {
+                if (state[s] < 5) {
                     if (r.works.about(s, 1) != -1) {
                         return;
                     }
@@ -406,7 +370,7 @@ public final class PlanTest {
                 return;
             }
             for (int g = 0; g < r.men.length; g++) {
-                if (r.works.gangs(g, 1) == -1) {
+                if (free[g]) {
                     gangs[k] = g;
                     takers(order, gangs, k + 1);
                 }
@@ -446,23 +410,22 @@ public final class PlanTest {
         }
 
         private int ready(int s, int g, int begin) {
-            int state = r.works.about(s, 0);
             int never = 9999;
             int day = begin;
             if (Math.ceil(r.weight[s] * r.flat / 10.0) > r.men[g]) {
                 return never;
             }
-            if (state == 0) {
+            if (state[s] == 0) {
                 day += (int) Math.ceil(r.weight[s] * r.cut / (double) r.men[g]);
             }
-            if (state <= 1) {
+            if (state[s] <= 1) {
                 day += r.way;
             }
-            if (state <= 2) {
+            if (state[s] <= 2) {
                 day = raftFrom(day) + r.raft;
             }
-            if (state <= 3) {
-                if (Math.ceil(r.weight[s] * r.ramp / 10.0) > r.men[g] || r.works.count(4) <= r.course[s]) {
+            if (state[s] <= 3) {
+                if (Math.ceil(r.weight[s] * r.ramp / 10.0) > r.men[g] || rampHigh <= r.course[s]) {
                     return never;
                 }
                 day += r.course[s] + 1;

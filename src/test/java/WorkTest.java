@@ -1,8 +1,8 @@
 /** Promises 9 to 14: GANGS SENT to STONES and to the RAMP, DAYS, WORKS CALLED OFF, what is told of both. */
 public final class WorkTest {
     private static final Checks C = new Checks();
-    private static final int MIN = Integer.MIN_VALUE;
-    private static final int MAX = Integer.MAX_VALUE;
+    private static final int MIN = Sites.MIN;
+    private static final int MAX = Sites.MAX;
 
     public static void main(String[] args) {
         noSuchOnes();
@@ -25,32 +25,8 @@ public final class WorkTest {
         C.finish();
     }
 
-    /** An object with much FOOD, the river HIGH for ever, and these GANGS. */
-    private static StoneWorks works(String table, int... men) {
-        StoneWorks x = new StoneWorks();
-        for (int i = 0; i < 10; i++) {
-            x.boat(0, 1000000);
-        }
-        for (int m : men) {
-            x.gang(m);
-        }
-        x.spell(0, 0, 3000);
-        Checks.tableOf(x, table);
-        return x;
-    }
-
-    /** Brings a STONE to a state by one GANG. */
-    private static void bring(StoneWorks x, int gang, int stone, int state) {
-        while (x.about(stone, 0) < state) {
-            if (x.gangs(gang, 1) == -1) {
-                C.due("send on the way", x.send(gang, stone), 0);
-            }
-            x.pass(1);
-        }
-    }
-
     private static void noSuchOnes() {
-        StoneWorks x = works("", 10);
+        StoneWorks x = Sites.works("", 10);
         x.stone(5, 0);
         for (int n : new int[] {-1, 1, 6, MIN, MAX}) {
             C.due("send(" + n + ", 0)", x.send(n, 0), 1);
@@ -68,7 +44,7 @@ public final class WorkTest {
     }
 
     private static void leastThatHolds() {
-        StoneWorks x = works("", 10, 10);
+        StoneWorks x = Sites.works("", 10, 10);
         x.stone(50, 0);
         x.stone(50, 0);
         C.due("send", x.send(0, 0), 0);
@@ -89,10 +65,10 @@ public final class WorkTest {
     }
 
     private static void ropesAndMen() {
-        StoneWorks x = works("cut 1;way 1;raft 1", 24, 25);
+        StoneWorks x = Sites.works("cut 1;way 1;raft 1", 24, 25);
         x.stone(49, 0);
         C.due("no pull for cutting", x.about(0, 4), 0);
-        bring(x, 1, 0, 1);
+        Sites.bring(x, 1, 0, 1);
         C.due("pull, upwards", x.about(0, 4), 25);
         C.due("6: too few men", x.send(0, 0), 6);
         Checks.tableOf(x, "rope 24;flat 5 1");
@@ -106,9 +82,9 @@ public final class WorkTest {
         C.due("wet is heavier here", x.send(1, 0), 6);
         C.due("pull on a dry way", x.about(0, 4), 5);
         x.pass(1);
-        bring(x, 0, 0, 2);
+        Sites.bring(x, 0, 0, 2);
         C.due("no pull for a raft", x.about(0, 4), 0);
-        bring(x, 0, 0, 3);
+        Sites.bring(x, 0, 0, 3);
         C.due("pull on the ramp", x.about(0, 4), 45);
         C.due("6 ahead of 8", x.send(0, 0), 6);
         Checks.tableOf(x, "ramp 4 1;flat 2 1;rope 20;earth 1");
@@ -118,10 +94,10 @@ public final class WorkTest {
         Checks.tableOf(x, "earth 1");
         x.raise(0);
         x.pass(1);
-        bring(x, 1, 0, 4);
+        Sites.bring(x, 1, 0, 4);
         C.due("pull of laying is flat", x.about(0, 4), 25);
         C.due("6 of laying", x.send(0, 0), 6);
-        bring(x, 1, 0, 5);
+        Sites.bring(x, 1, 0, 5);
         C.due("no pull when laid", x.about(0, 4), 0);
         C.due("4 when laid", x.send(0, 0), 4);
     }
@@ -135,7 +111,7 @@ public final class WorkTest {
             x.stone(5, 0);
         }
         for (int i = 0; i < 4; i++) {
-            bring(x, 0, i, 2);
+            Sites.bring(x, 0, i, 2);
         }
         C.due("now", x.count(0), 8);
         C.due("7", x.send(0, 0), 7);
@@ -170,7 +146,7 @@ public final class WorkTest {
     }
 
     private static void ramp() {
-        StoneWorks x = works("earth 3", 4, 200);
+        StoneWorks x = Sites.works("earth 3", 4, 200);
         int left = 3;
         for (int high = 0; high < 10; high++) {
             C.due("raise", x.raise(1), 0);
@@ -180,7 +156,7 @@ public final class WorkTest {
             C.due("high", x.count(4), high + 1);
         }
         C.due("4", x.raise(0), 4);
-        StoneWorks y = works("earth 3", 2);
+        StoneWorks y = Sites.works("earth 3", 2);
         y.raise(0);
         y.pass(1);
         C.due("left", y.gangs(0, 2), 1);
@@ -198,15 +174,15 @@ public final class WorkTest {
     }
 
     private static void lesserCourses() {
-        StoneWorks x = works("cut 1;way 1;raft 1;earth 1", 50);
+        StoneWorks x = Sites.works("cut 1;way 1;raft 1;earth 1", 50);
         x.stone(10, 1);
         x.stone(10, 0);
         x.stone(10, 0);
         x.raise(0);
         x.pass(1);
-        bring(x, 0, 0, 3);
+        Sites.bring(x, 0, 0, 3);
         C.due("8: high by 1 for course 1", x.send(0, 0), 8);
-        bring(x, 0, 1, 3);
+        Sites.bring(x, 0, 1, 3);
         C.due("course 0 goes up", x.send(0, 1), 0);
         C.due("in one day", x.gangs(0, 2), 1);
         x.pass(1);
@@ -216,9 +192,9 @@ public final class WorkTest {
         C.due("in two days", x.gangs(0, 2), 2);
         x.pass(2);
         C.due("9", x.send(0, 0), 9);
-        bring(x, 0, 1, 5);
+        Sites.bring(x, 0, 1, 5);
         C.due("9 for the other", x.send(0, 0), 9);
-        bring(x, 0, 2, 2);
+        Sites.bring(x, 0, 2, 2);
         x.send(0, 2);
         x.callOff(0);
         C.due("lost is no hindrance", x.send(0, 0), 0);
@@ -231,19 +207,19 @@ public final class WorkTest {
         C.due("day", x.about(0, 3), day);
         C.due("laid by it", x.gangs(0, 3), 2);
         C.due("count laid", x.count(5), 2);
-        StoneWorks y = works("cut 1;way 1;raft 1;earth 1", 50);
+        StoneWorks y = Sites.works("cut 1;way 1;raft 1;earth 1", 50);
         y.stone(10, 0);
         y.stone(10, 1);
         y.raise(0);
         y.pass(1);
         y.raise(0);
         y.pass(1);
-        bring(y, 0, 1, 4);
+        Sites.bring(y, 0, 1, 4);
         C.due("9 for stone 0", y.send(0, 1), 9);
     }
 
     private static void callingOff() {
-        StoneWorks x = works("", 10);
+        StoneWorks x = Sites.works("", 10);
         x.stone(50, 0);
         C.due("no work", x.callOff(0), false);
         x.send(0, 0);
@@ -259,7 +235,7 @@ public final class WorkTest {
     }
 
     private static void cuttingByMen() {
-        StoneWorks x = works("cut 3", 10, 20);
+        StoneWorks x = Sites.works("cut 3", 10, 20);
         x.stone(7, 0);
         x.send(0, 0);
         x.pass(2);
@@ -274,9 +250,9 @@ public final class WorkTest {
     }
 
     private static void tableAsSent() {
-        StoneWorks x = works("way 2;cut 1;raft 3", 50);
+        StoneWorks x = Sites.works("way 2;cut 1;raft 3", 50);
         x.stone(10, 0);
-        bring(x, 0, 0, 1);
+        Sites.bring(x, 0, 0, 1);
         x.send(0, 0);
         Checks.tableOf(x, "way 9;raft 1");
         C.due("way as sent", x.gangs(0, 2), 2);
@@ -290,9 +266,9 @@ public final class WorkTest {
     }
 
     private static void standingStill() {
-        StoneWorks x = works("way 3;cut 1;flat 5 9", 10);
+        StoneWorks x = Sites.works("way 3;cut 1;flat 5 9", 10);
         x.stone(12, 0);
-        bring(x, 0, 0, 1);
+        Sites.bring(x, 0, 0, 1);
         C.due("send", x.send(0, 0), 0);
         int now = x.count(0);
         x.spell(1, now, now);
@@ -319,13 +295,13 @@ public final class WorkTest {
     }
 
     private static void wetRamp() {
-        StoneWorks x = works("cut 1;way 1;raft 1;earth 1", 20);
+        StoneWorks x = Sites.works("cut 1;way 1;raft 1;earth 1", 20);
         x.stone(20, 2);
         for (int i = 0; i < 3; i++) {
             x.raise(0);
             x.pass(1);
         }
-        bring(x, 0, 0, 3);
+        Sites.bring(x, 0, 0, 3);
         int now = x.count(0);
         x.spell(1, now, now);
         x.spell(1, now + 2, now + 2);
@@ -349,9 +325,9 @@ public final class WorkTest {
     }
 
     private static void ropeThatJustBears() {
-        StoneWorks x = works("cut 1;way 2", 10);
+        StoneWorks x = Sites.works("cut 1;way 2", 10);
         x.stone(20, 0);
-        bring(x, 0, 0, 1);
+        Sites.bring(x, 0, 0, 1);
         Checks.tableOf(x, "way 2;flat 5 5;rope 10");
         C.due("10 men, a rope for 10", x.send(0, 0), 0);
         x.pass(1);
@@ -383,9 +359,9 @@ public final class WorkTest {
         x.pass(1);
         C.due("two of them", x.count(11), 2);
         C.due("left", x.gangs(0, 2), 188);
-        StoneWorks y = works("cut 1;way 1;raft 3", 10);
+        StoneWorks y = Sites.works("cut 1;way 1;raft 3", 10);
         y.stone(10, 0);
-        bring(y, 0, 0, 2);
+        Sites.bring(y, 0, 0, 2);
         y.send(0, 0);
         y.spell(2, y.count(0) + 1, y.count(0) + 1);
         y.pass(1);
@@ -402,7 +378,7 @@ public final class WorkTest {
         Checks.tableOf(x, "cut 1;way 1;raft 5");
         x.stone(10, 0);
         x.boat(0, 30);
-        bring(x, 0, 0, 2);
+        Sites.bring(x, 0, 0, 2);
         C.due("food", x.count(3), 10);
         x.send(0, 0);
         x.pass(1);
@@ -421,7 +397,7 @@ public final class WorkTest {
     }
 
     private static void gangsByNumbers() {
-        StoneWorks x = works("cut 1;way 1;raft 1;earth 1", 30, 20);
+        StoneWorks x = Sites.works("cut 1;way 1;raft 1;earth 1", 30, 20);
         x.stone(10, 0);
         x.stone(10, 0);
         x.raise(0);
@@ -460,13 +436,9 @@ public final class WorkTest {
     }
 
     private static void theEnd() {
-        StoneWorks x = works("", 10, 10);
+        StoneWorks x = Sites.works("", 10, 10);
         x.stone(10, 0);
-        for (int i = 0; i < 6; i++) {
-            x.pass(400);
-        }
-        x.pass(400);
-        x.pass(200);
+        Sites.passTo(x, 3000);
         C.due("the last day: raise", x.raise(0), 0);
         C.due("the last day: another raises it", x.raise(1), 3);
         x.callOff(0);
