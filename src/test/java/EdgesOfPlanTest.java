@@ -17,6 +17,8 @@ public final class EdgesOfPlanTest {
         menByStage();
         cuttingUpwards();
         raftsFirstDay();
+        raftsOverAGap();
+        raftsWithFortySpells();
         raftAtTheLastDays();
         lesserCoursesFirst();
         lesserCourseBehind();
@@ -147,6 +149,11 @@ public final class EdgesOfPlanTest {
             low.pass(1);
             duePlan("higher than course " + course, low, course + 4, 0, 0, 0, course + 4);
         }
+        StoneWorks foot = ready(1, new int[] {200}, 1);
+        Sites.bring(foot, 0, 0, 3);
+        dueNone("at the foot of a ramp that is too low", foot);
+        Sites.raiseRamp(foot, 0, 2);
+        duePlan("at the foot of one that isn't", foot, 2, 0, 0, 0, 2);
         dueNone("high by 1 for course 9", ready(1, new int[] {200}, 9));
         dueNone("one of two is too high", ready(1, new int[] {200}, 0, 1));
     }
@@ -244,6 +251,9 @@ public final class EdgesOfPlanTest {
         StoneWorks x = atTheQuay();
         int now = x.count(0);
         dueNone("never high", x);
+        x.spell(1, 0, 3000);
+        x.spell(2, 0, 3000);
+        dueNone("wet days and feasts aren't high", x);
         x.spell(0, 0, now + 1);
         dueNone("two days", x);
         x.spell(0, now + 20, now + 40);
@@ -263,6 +273,46 @@ public final class EdgesOfPlanTest {
         duePlan("just three from NOW on", y, 4, 0, 0, 0, 4);
         y.pass(1);
         dueNone("a day later", y);
+    }
+
+    private static void raftsOverAGap() {
+        C.sentence(15, "a raft begins on the first DAY from which on raft DAYS are HIGH;");
+        // rafts of three DAYS; two SPELLS of two DAYS with one DAY between them, told in either order
+        for (int first = 0; first <= 3; first += 3) {
+            StoneWorks x = atTheQuay();
+            int now = x.count(0);
+            x.spell(0, now + first, now + first + 1);
+            x.spell(0, now + 3 - first, now + 4 - first);
+            x.spell(0, now + 6, now + 8);
+            duePlan("over a gap", x, 10, 0, 0, 0, 10);
+            x.spell(0, now + 2, now + 2);
+            duePlan("the gap is closed", x, 4, 0, 0, 0, 4);
+        }
+        StoneWorks y = atTheQuay();
+        int now = y.count(0);
+        y.spell(0, now + 5, now + 6);
+        y.spell(0, now + 4, now + 9);
+        y.spell(0, now + 7, now + 8);
+        y.pass(5);
+        duePlan("one spell within another", y, 4, 0, 0, 0, 4);
+    }
+
+    private static void raftsWithFortySpells() {
+        C.sentence(15, "SPELLS, 40 at most of all,");
+        for (int fits = 0; fits <= 40; fits += 20) {
+            StoneWorks x = atTheQuay();
+            int now = x.count(0);
+            // from the last to the first: two DAYS each, or three in the one that fits
+            for (int i = 40; i >= 1; i--) {
+                x.spell(0, now + 10 * i, now + 10 * i + (i == fits ? 2 : 1));
+            }
+            C.due("how many", x.count(8), 40);
+            if (fits == 0) {
+                dueNone("none of forty is long enough", x);
+            } else {
+                duePlan("spell " + fits + " of forty", x, 10 * fits + 4, 0, 0, 0, 10 * fits + 4);
+            }
+        }
     }
 
     private static void raftAtTheLastDays() {

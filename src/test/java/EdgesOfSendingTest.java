@@ -134,6 +134,14 @@ public final class EdgesOfSendingTest {
             C.due("5 ahead of 6, state " + state, x.send(1, 1), 5);
             Checks.tableOf(x, QUICK);
         }
+        StoneWorks z = Sites.works(QUICK, 200);
+        z.stone(50, 0);
+        Sites.bring(z, 0, 0, 1);
+        Checks.tableOf(z, "flat 40 1");
+        C.due("200, the rope without a clause", z.send(0, 0), 0);
+        z.callOff(0);
+        Checks.tableOf(z, "flat 41 1");
+        C.due("205, more than any rope", z.send(0, 0), 5);
         StoneWorks y = Sites.works(QUICK, 200);
         y.stone(30, 5);
         Sites.bring(y, 0, 0, 3);
@@ -270,6 +278,22 @@ public final class EdgesOfSendingTest {
         C.due("while the lesser one is on the river", y.send(0, 0), 9);
         y.callOff(1);
         C.due("the lesser one is lost", y.send(0, 0), 0);
+        StoneWorks z = Sites.withRamp(QUICK, 2, 200);
+        z.stone(1, 0);
+        for (int i = 1; i < 30; i++) {
+            z.stone(1, 1);
+        }
+        Sites.bring(z, 0, 29, 4);
+        C.due("the lesser one is the first", z.send(0, 29), 9);
+        Sites.bring(z, 0, 0, 5);
+        C.due("then it is laid", z.send(0, 29), 0);
+        StoneWorks w = Sites.withRamp(QUICK, 2, 200);
+        for (int i = 1; i < 30; i++) {
+            w.stone(1, 1);
+        }
+        Sites.bring(w, 0, 0, 4);
+        w.stone(1, 0);
+        C.due("the lesser one is the last", w.send(0, 0), 9);
     }
 
     private static void refusedChangesNothing() {

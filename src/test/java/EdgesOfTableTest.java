@@ -162,6 +162,10 @@ public final class EdgesOfTableTest {
         C.due("table() with a fault", x.table(), Checks.fault(4, 1));
         C.due("count(9)", x.count(9), 0);
         C.due("cut", x.count(24), 7);
+        Checks.write(x, "cut 8");
+        C.due("table() behind a faulty one", x.table(), 1);
+        C.due("cut", x.count(24), 8);
+        C.due("table() of nothing", x.table(), 0);
     }
 
     private static void blanksAlone() {
@@ -298,6 +302,7 @@ public final class EdgesOfTableTest {
             String word = WORDS[i];
             String numbers = i < 2 ? " 1 1" : " 1";
             dueFault(word.substring(1) + numbers, 0, 0);
+            dueFault("x" + word.substring(1) + numbers, 0, 0);
             dueFault(word.substring(0, word.length() - 1) + numbers, 0, 0);
             dueFault(word + "s" + numbers, 0, 0);
             dueFault(word + word + numbers, 0, 0);

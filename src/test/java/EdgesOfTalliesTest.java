@@ -24,6 +24,7 @@ public final class EdgesOfTalliesTest {
         noMostOfStones();
         greatestGoesFirst();
         allTwenty();
+        twentyWithinOneAnother();
         placesOfTheQuarrel();
         quarrelOfNow();
         C.finish();
@@ -302,6 +303,27 @@ public final class EdgesOfTalliesTest {
         z.tally(0, 0, 0, 1);
         z.tally(0, 0, 0, 0);
         dueQuarrel("the last two", z, 18, 19);
+    }
+
+    private static void twentyWithinOneAnother() {
+        C.sentence(19, "TALLIES 0 to 19:");
+        for (int innermost = 4; innermost <= 6; innermost++) {
+            StoneWorks x = new StoneWorks();
+            for (int t = 0; t < 19; t++) {
+                x.tally(5, t, 3000 - t, 5);
+            }
+            x.tally(5, 19, 2981, innermost);
+            if (innermost <= 5) {
+                dueQuarrel("no more within than around, " + innermost, x);
+            } else {
+                dueQuarrel("the innermost has one more", x, 0, 19);
+            }
+        }
+        StoneWorks y = new StoneWorks();
+        for (int t = 0; t < 20; t++) {
+            y.tally(5, 10 * t, 10 * t + 5, 30);
+        }
+        dueQuarrel("twenty with gaps between", y);
     }
 
     // ---- promise 20
